@@ -1,0 +1,20 @@
+/** The project's own tests. */
+public final class AllTests {
+  private AllTests() {}
+
+  public static void main(String[] arguments) {
+    TokensTest.run();
+    ComponentsTest.run();
+    PagesTest.run();
+    ChecksTest.run();
+    PublishingTest.run();
+    DeprecationsTest.run();
+    FiguresTest.run();
+    FaceTest.run();
+    LanguageTest.run();
+    ModelTest.run();
+    if (!Testing.finish()) {
+      System.exit(1);
+    }
+  }
+}

@@ -1,0 +1,41 @@
+/** Runs tests, counts them and says which failed. */
+final class Testing {
+  private static int passed = 0;
+  private static int failed = 0;
+
+  private Testing() {}
+
+  static void test(String name, Runnable body) {
+    try {
+      body.run();
+      passed++;
+    } catch (RuntimeException | AssertionError e) {
+      failed++;
+      System.out.println("FAILED: " + name + ": " + e);
+    }
+  }
+
+  static void same(Object due, Object got) {
+    if (!due.equals(got)) {
+      throw new AssertionError("due is " + due + ", answered was " + got);
+    }
+  }
+
+  /** The very class is asked for, as one above or below it is another exception. */
+  static void refuses(Class<? extends RuntimeException> due, Runnable call) {
+    Class<?> got = null;
+    try {
+      call.run();
+    } catch (RuntimeException e) {
+      got = e.getClass();
+    }
+    if (got != due) {
+      throw new AssertionError("due is " + due + ", thrown was " + got);
+    }
+  }
+
+  static boolean finish() {
+    System.out.println("own: " + passed + " passed, " + failed + " failed");
+    return failed == 0;
+  }
+}
