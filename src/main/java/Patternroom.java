@@ -40,14 +40,11 @@ public final class Patternroom {
     for (int p = 0; p < MOST_PAGES; p++) {
       pages[p] = new Page();
     }
-    pageCount = 0;
     limits = new Limits();
     snapshots = new Snapshot[MOST_SNAPSHOTS];
     for (int s = 0; s < MOST_SNAPSHOTS; s++) {
       snapshots[s] = new Snapshot();
     }
-    snapshotCount = 0;
-    paintingCount = 0;
     now = new View();
   }
 
@@ -581,7 +578,6 @@ public final class Patternroom {
     private final int[][] definitionsBefore;
 
     private Tokens() {
-      count = 0;
       themes = 1;
       layers = new int[MOST_TOKENS];
       successors = new int[MOST_TOKENS];
@@ -681,7 +677,6 @@ public final class Patternroom {
     private final int[][] regionOwners;
 
     private Components() {
-      count = 0;
       tokensOf = new int[MOST_COMPONENTS][PLACES];
       tokensBefore = new int[MOST_COMPONENTS][PLACES];
       slots = new int[MOST_COMPONENTS][SLOTS];
@@ -796,16 +791,11 @@ public final class Patternroom {
     private final View[] shownViews;
 
     private Page() {
-      useCount = 0;
       usedComponents = new int[MOST_USES];
       usedVariants = new int[MOST_USES];
-      overrideCount = 0;
       overrides = new int[MOST_TOKENS];
-      regionCount = 0;
       regionTokens = new int[MOST_REGIONS_OF_PAGE * PARTS];
       keptValues = new int[MOST_THEMES][MOST_TOKENS];
-      isPublished = false;
-      shownThemes = 0;
       shownViews = new View[MOST_THEMES];
       Arrays.fill(overrides, NONE);
       for (int t = 0; t < MOST_THEMES; t++) {
@@ -876,7 +866,6 @@ public final class Patternroom {
     private final int[] values;
 
     private View() {
-      regionCount = 0;
       values = new int[MOST_REGIONS_OF_PAGE * PARTS];
     }
 
@@ -930,8 +919,6 @@ public final class Patternroom {
     private final View view;
 
     private Snapshot() {
-      theme = 0;
-      page = 0;
       view = new View();
     }
   }

@@ -10,6 +10,7 @@ public final class AllTests {
     PublishingTest.run();
     DeprecationsTest.run();
     FiguresTest.run();
+    FullTest.run();
     FaceTest.run();
     LanguageTest.run();
     ModelTest.run();

@@ -79,13 +79,20 @@ final class FiguresTest {
 
   // No call can spoil a sound library, so the two tests below reach into the object.
   private static void seesWrongKeptValue() {
-    Patternroom room = Samples.published();
-    int[][] kept = (int[][]) field(firstPage(room), "keptValues");
-    Testing.same(80, kept[0][Samples.TITLE]);
-    kept[0][Samples.TITLE] = 81;
-    Testing.same(false, room.isSound());
-    kept[0][Samples.TITLE] = 80;
+    Patternroom room = Samples.tokens();
+    room.addTheme();
+    room.addPage();
     Testing.same(true, room.isSound());
+    int[][] kept = (int[][]) field(firstPage(room), "keptValues");
+    for (int theme = 0; theme < 2; theme++) {
+      for (int token = 0; token < 5; token++) {
+        int right = room.valueAnew(theme, 0, token);
+        kept[theme][token] = right + 1;
+        Testing.same(false, room.isSound());
+        kept[theme][token] = right;
+        Testing.same(true, room.isSound());
+      }
+    }
   }
 
   private static void seesWrongShownValue() {

@@ -2,7 +2,8 @@ import java.util.function.Supplier;
 
 /**
  * Long runs of calls on Patternroom and on PlainLibrary side by side. The numbers come of a fixed
- * seed, so each run is the same every time.
+ * seed, so each run is the same every time. Only calls that change something are counted: with the
+ * questions a run has more calls than the document promises for, all answered by the same code.
  */
 final class ModelTest {
   private static final int RUNS = 600;

@@ -111,6 +111,11 @@ final class PublishingTest {
     Testing.refuses(NoSuchElementException.class, () -> room.shown(0, 0, 1, 0));
     room.publish(1);
     Testing.refuses(NoSuchElementException.class, () -> room.shown(1, 0, 0, 0));
+    room.addTheme();
+    room.addTheme();
+    Testing.refuses(NoSuchElementException.class, () -> room.shown(0, 3, 0, 0));
+    Testing.refuses(NoSuchElementException.class, () -> room.shown(0, Integer.MAX_VALUE, 0, 0));
+    Testing.refuses(NoSuchElementException.class, () -> room.shown(0, 0, Integer.MAX_VALUE, 0));
   }
 
   private static void paintings() {
