@@ -10,6 +10,15 @@ public final class AllTests {
     PublishingTest.run();
     DeprecationsTest.run();
     FiguresTest.run();
+    TokenEdgesTest.run();
+    ValueEdgesTest.run();
+    ComponentEdgesTest.run();
+    PageEdgesTest.run();
+    CheckEdgesTest.run();
+    PublishingEdgesTest.run();
+    SnapshotEdgesTest.run();
+    DeprecationEdgesTest.run();
+    FigureEdgesTest.run();
     FullTest.run();
     FaceTest.run();
     LanguageTest.run();

@@ -7,41 +7,8 @@ final class FullTest {
     Testing.test("promises 1 to 33: a full library refuses one more", FullTest::fullRefuses);
   }
 
-  /** 12 tokens (fronts 90, backs 10, sizes 20), 8 components, 4 pages of 24 regions, 3 themes. */
-  private static Patternroom library() {
-    Patternroom room = new Patternroom();
-    int[] values = {90, 10, 20};
-    for (int t = 0; t < 12; t++) {
-      room.addToken(t / 4, values[t % 3]);
-    }
-    for (int c = 0; c < 8; c++) {
-      room.addComponent(9, 10, 11);
-      room.setVariant(c, 1, 6);
-      room.setVariant(c, 2, 3);
-    }
-    for (int slot = 0; slot < 3; slot++) {
-      room.setSlot(7, slot, slot);
-    }
-    for (int p = 0; p < 4; p++) {
-      room.addPage();
-      for (int u = 0; u < 6; u++) {
-        room.addUse(p, 7, u % 3);
-      }
-      for (int t = 0; t < 3; t++) {
-        room.override(p, t, values[t]);
-      }
-      room.publish(p);
-    }
-    room.addTheme();
-    room.addTheme();
-    for (int s = 0; s < 8; s++) {
-      room.snapshot(s % 3, s % 4);
-    }
-    return room;
-  }
-
   private static void full() {
-    Patternroom room = library();
+    Patternroom room = Samples.full();
     Testing.same(8L, room.paintings());
     Testing.same(24, room.regions(3));
     Testing.same(20, room.shown(3, 2, 23, 2));
@@ -69,7 +36,7 @@ final class FullTest {
   }
 
   private static void fullRefuses() {
-    Patternroom room = library();
+    Patternroom room = Samples.full();
     Testing.refuses(IllegalStateException.class, () -> room.addToken(0, 0));
     Testing.refuses(IllegalStateException.class, () -> room.addComponent(0, 0, 0));
     Testing.refuses(IllegalStateException.class, room::addTheme);

@@ -79,17 +79,9 @@ final class ModelTest {
     return number(0, 3) > 0 ? 10 + token % 3 * 30 + chance(6) : number(0, 99);
   }
 
-  private static Object outcome(Supplier<Object> call) {
-    try {
-      return call.get();
-    } catch (RuntimeException e) {
-      return e.getClass();
-    }
-  }
-
   private void compare(String call, Supplier<Object> due, Supplier<Object> got) {
-    Object wanted = outcome(due);
-    Object answered = outcome(got);
+    Object wanted = Testing.outcome(due);
+    Object answered = Testing.outcome(got);
     if (!wanted.equals(answered)) {
       throw new AssertionError(call + " answered " + answered + ", due is " + wanted + calls);
     }

@@ -1,12 +1,20 @@
+import java.util.HashSet;
+import java.util.Set;
+import java.util.function.Supplier;
+
 /** Runs tests, counts them and says which failed. */
 final class Testing {
   private static int passed = 0;
   private static int failed = 0;
+  private static final Set<String> NAMES = new HashSet<>();
 
   private Testing() {}
 
   static void test(String name, Runnable body) {
     try {
+      if (!NAMES.add(name)) {
+        throw new AssertionError("two tests have this name");
+      }
       body.run();
       passed++;
     } catch (RuntimeException | AssertionError e) {
@@ -31,6 +39,15 @@ final class Testing {
     }
     if (got != due) {
       throw new AssertionError("due is " + due + ", thrown was " + got);
+    }
+  }
+
+  /** What a call answers, or the class of what it throws. */
+  static Object outcome(Supplier<Object> call) {
+    try {
+      return call.get();
+    } catch (RuntimeException e) {
+      return e.getClass();
     }
   }
 
