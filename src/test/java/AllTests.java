@@ -1,5 +1,7 @@
 /** The project's own tests. */
 public final class AllTests {
+  private static final int PROMISES = 33;
+
   private AllTests() {}
 
   public static void main(String[] arguments) {
@@ -23,8 +25,15 @@ public final class AllTests {
     FaceTest.run();
     LanguageTest.run();
     ModelTest.run();
+    Testing.test("each promise has a test that bears its name", AllTests::names);
     if (!Testing.finish()) {
       System.exit(1);
+    }
+  }
+
+  private static void names() {
+    for (int promise = 1; promise <= PROMISES; promise++) {
+      Testing.same(true, Testing.hasTestOf("promise " + promise));
     }
   }
 }

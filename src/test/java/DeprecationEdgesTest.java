@@ -451,6 +451,16 @@ final class DeprecationEdgesTest {
           room.override(1, NEW, 80);
           return room;
         }, room -> room.move(OLD));
+    Refused.test("promise 30: the references of the twelfth token stay when it is refused",
+        Refused.UNSUPPORTED, () -> {
+          Patternroom room = Samples.full();
+          for (int theme = -1; theme < 3; theme++) {
+            room.setReference(theme, 11, 5);
+            room.setReference(theme, 4, 3);
+          }
+          room.deprecate(5, 3);
+          return room;
+        }, room -> room.move(5));
     Refused.test("promise 30: all kinds of uses stay when it is refused", Refused.UNSUPPORTED, () -> {
       Patternroom room = Samples.rich();
       room.setReference(1, Samples.TITLE, Samples.INK);

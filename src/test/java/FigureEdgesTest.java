@@ -1,6 +1,3 @@
-import java.lang.reflect.Array;
-import java.lang.reflect.Field;
-
 /** The boundary cases of the promises 31 to 33, and of the number of calls. */
 final class FigureEdgesTest {
   private FigureEdgesTest() {}
@@ -139,24 +136,23 @@ final class FigureEdgesTest {
     });
   }
 
-  // No call can spoil a sound library, so the tests below reach into the object.
   private static void isNotSound() {
     Testing.test("promise 33: a wrong value kept in the last place is seen", () -> {
       Patternroom room = Samples.full();
       int right = room.valueIn(2, 3, 11);
-      kept(room, 3)[2][11] = right + 1;
+      Inside.keptValues(room, 3)[2][11] = right + 1;
       Testing.same(false, room.isSound());
-      kept(room, 3)[2][11] = right;
+      Inside.keptValues(room, 3)[2][11] = right;
       Testing.same(true, room.isSound());
     });
     Testing.test("promise 33: a wrong kept value of a page not published is seen", () -> {
       Patternroom room = Samples.page();
-      kept(room, 0)[0][0] = 1;
+      Inside.keptValues(room, 0)[0][0] = 1;
       Testing.same(false, room.isSound());
     });
     Testing.test("promise 33: a wrong value shown in the last place is seen", () -> {
       Patternroom room = Samples.full();
-      int[] values = (int[]) field(view(room, 3, 2), "values");
+      int[] values = Inside.shownValues(room, 3, 2);
       Testing.same(20, values[71]);
       values[71] = 21;
       Testing.same(false, room.isSound());
@@ -165,53 +161,19 @@ final class FigureEdgesTest {
     });
     Testing.test("promise 33: a region too few that is shown is seen", () -> {
       Patternroom room = Samples.full();
-      put(view(room, 3, 2), "regionCount", 23);
+      Inside.put(Inside.shownView(room, 3, 2), "regionCount", 23);
       Testing.same(false, room.isSound());
     });
     Testing.test("promise 33: a theme too few that is shown is seen", () -> {
       Patternroom room = Samples.full();
-      put(page(room, 3), "shownThemes", 2);
+      Inside.put(Inside.page(room, 3), "shownThemes", 2);
       Testing.same(false, room.isSound());
     });
     Testing.test("promise 33: what a stale page shows does not matter", () -> {
       Patternroom room = Samples.rich();
-      ((int[]) field(view(room, 1, 0), "values"))[0] = 1;
+      Inside.shownValues(room, 1, 0)[0] = 1;
       Testing.same(true, room.isSound());
     });
-  }
-
-  private static Object page(Patternroom room, int page) {
-    return Array.get(field(room, "pages"), page);
-  }
-
-  private static int[][] kept(Patternroom room, int page) {
-    return (int[][]) field(page(room, page), "keptValues");
-  }
-
-  private static Object view(Patternroom room, int page, int theme) {
-    return Array.get(field(page(room, page), "shownViews"), theme);
-  }
-
-  private static Field open(Object owner, String name) throws ReflectiveOperationException {
-    Field found = owner.getClass().getDeclaredField(name);
-    found.setAccessible(true);
-    return found;
-  }
-
-  private static Object field(Object owner, String name) {
-    try {
-      return open(owner, name).get(owner);
-    } catch (ReflectiveOperationException e) {
-      throw new IllegalStateException(e);
-    }
-  }
-
-  private static void put(Object owner, String name, int number) {
-    try {
-      open(owner, name).setInt(owner, number);
-    } catch (ReflectiveOperationException e) {
-      throw new IllegalStateException(e);
-    }
   }
 
   private static void lastCall() {

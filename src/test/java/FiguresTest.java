@@ -1,6 +1,3 @@
-import java.lang.reflect.Array;
-import java.lang.reflect.Field;
-
 /** Promises 31 to 33. */
 final class FiguresTest {
   private FiguresTest() {}
@@ -77,13 +74,12 @@ final class FiguresTest {
     Testing.same(true, room.isSound());
   }
 
-  // No call can spoil a sound library, so the two tests below reach into the object.
   private static void seesWrongKeptValue() {
     Patternroom room = Samples.tokens();
     room.addTheme();
     room.addPage();
     Testing.same(true, room.isSound());
-    int[][] kept = (int[][]) field(firstPage(room), "keptValues");
+    int[][] kept = Inside.keptValues(room, 0);
     for (int theme = 0; theme < 2; theme++) {
       for (int token = 0; token < 5; token++) {
         int right = room.valueAnew(theme, 0, token);
@@ -97,27 +93,12 @@ final class FiguresTest {
 
   private static void seesWrongShownValue() {
     Patternroom room = Samples.published();
-    Object view = Array.get(field(firstPage(room), "shownViews"), 0);
-    int[] values = (int[]) field(view, "values");
+    int[] values = Inside.shownValues(room, 0, 0);
     Testing.same(80, values[0]);
     values[0] = 81;
     Testing.same(false, room.isSound());
     room.setLimits(99, 0, 99);
     Testing.same(true, room.isStale(0));
     Testing.same(true, room.isSound());
-  }
-
-  private static Object firstPage(Patternroom room) {
-    return Array.get(field(room, "pages"), 0);
-  }
-
-  private static Object field(Object owner, String name) {
-    try {
-      Field found = owner.getClass().getDeclaredField(name);
-      found.setAccessible(true);
-      return found.get(owner);
-    } catch (ReflectiveOperationException e) {
-      throw new IllegalStateException(e);
-    }
   }
 }

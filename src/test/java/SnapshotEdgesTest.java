@@ -11,10 +11,14 @@ final class SnapshotEdgesTest {
     differingRegions();
   }
 
+  /** Eight snapshots of two themes that differ, each of other values. */
   private static Patternroom eightSnapshots() {
     Patternroom room = Samples.page();
+    room.addTheme();
+    room.addUse(0, 1, 0);
     for (int s = 0; s < 8; s++) {
-      room.snapshot(0, 0);
+      room.setValue(s % 2, Samples.INK, 60 + s);
+      room.snapshot(s % 2, 0);
     }
     return room;
   }
@@ -25,7 +29,7 @@ final class SnapshotEdgesTest {
     Refused.test("promise 26: there is no page without pages", Refused.INDEX, Samples::tokens,
         room -> room.snapshot(0, 0));
     Refused.test("promise 26: a wrong theme comes before no room", Refused.INDEX,
-        SnapshotEdgesTest::eightSnapshots, room -> room.snapshot(1, 0));
+        SnapshotEdgesTest::eightSnapshots, room -> room.snapshot(2, 0));
     Refused.test("promise 26: a wrong page comes before no room", Refused.INDEX,
         SnapshotEdgesTest::eightSnapshots, room -> room.snapshot(0, 1));
     Refused.test("promise 26: of a full library the theme 3 comes before no room", Refused.INDEX,

@@ -51,6 +51,10 @@ final class Testing {
     }
   }
 
+  static boolean hasTestOf(String promise) {
+    return NAMES.stream().anyMatch(name -> name.startsWith(promise + ":"));
+  }
+
   static boolean finish() {
     System.out.println("own: " + passed + " passed, " + failed + " failed");
     return failed == 0;
