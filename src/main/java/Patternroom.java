@@ -471,9 +471,11 @@ public final class Patternroom {
   }
 
   private boolean keepsRightValues(int page) {
+    Page looked = pages[page];
     for (int theme = 0; theme < tokens.themes; theme++) {
       for (int token = 0; token < tokens.count; token++) {
-        if (valueIn(theme, page, token) != valueAnew(theme, page, token)) {
+        int anew = tokens.find(theme, token, looked.overrides);
+        if (looked.keptValue(tokens, theme, token) != anew) {
           return false;
         }
       }

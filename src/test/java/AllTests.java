@@ -24,6 +24,9 @@ public final class AllTests {
     FullTest.run();
     FaceTest.run();
     LanguageTest.run();
+    ObjectsTest.run();
+    ReadmeTest.run();
+    ArgumentsTest.run();
     ModelTest.run();
     Testing.test("each promise has a test that bears its name", AllTests::names);
     if (!Testing.finish()) {

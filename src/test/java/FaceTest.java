@@ -1,7 +1,10 @@
+import java.io.IOException;
 import java.lang.reflect.Constructor;
 import java.lang.reflect.Field;
 import java.lang.reflect.Method;
 import java.lang.reflect.Modifier;
+import java.nio.file.Files;
+import java.nio.file.Path;
 import java.util.HashSet;
 import java.util.Set;
 import java.util.TreeSet;
@@ -43,10 +46,13 @@ final class FaceTest {
     "boolean isSound()",
   };
 
+  private static final Path DOCUMENT = Path.of("../shared/DOC.md");
+
   private FaceTest() {}
 
   static void run() {
     Testing.test("face: the public methods are those of the document", FaceTest::methods);
+    Testing.test("face: each row of the document stands in the class", FaceTest::rows);
     Testing.test("face: the class and its constructor are public", FaceTest::constructor);
     Testing.test("rule 1: nothing else is to be seen from outside", FaceTest::hidden);
     Testing.test("rule 1: no private method bears a public one's name", FaceTest::names);
@@ -62,6 +68,28 @@ final class FaceTest {
       }
     }
     Testing.same(new TreeSet<>(Set.of(FACE)), got);
+  }
+
+  private static String plainText(Path file) {
+    try {
+      return Files.readString(file).replaceAll("\\s+", " ");
+    } catch (IOException e) {
+      throw new IllegalStateException(e);
+    }
+  }
+
+  /** The rows say more than the members do: names of arguments, and exceptions in their order. */
+  private static void rows() {
+    String head = "public final class Patternroom {";
+    String document = plainText(DOCUMENT);
+    String program = plainText(Program.FILE);
+    int start = document.indexOf(head) + head.length();
+    String[] rows = document.substring(start, document.indexOf("}", start)).trim().split(" ?; ?");
+    Testing.same(FACE.length + 1, rows.length);
+    Testing.same(true, program.contains(head));
+    for (String row : rows) {
+      Testing.same(row + " " + true, row + " " + program.contains(" " + row + " {"));
+    }
   }
 
   private static String signature(Method method) {

@@ -219,7 +219,7 @@ final class ModelTest {
     compare("value", () -> plain.value(theme, token), () -> room.value(theme, token));
     compare("valueIn", () -> plain.valueIn(theme, page, token),
         () -> room.valueIn(theme, page, token));
-    compare("valueAnew", () -> plain.valueIn(theme, page, token),
+    compare("valueAnew", () -> plain.valueAnew(theme, page, token),
         () -> room.valueAnew(theme, page, token));
   }
 
@@ -236,7 +236,7 @@ final class ModelTest {
   private void lookAtAll() {
     compare("paintings", plain::paintings, room::paintings);
     compare("passShare", plain::passShare, room::passShare);
-    compare("isSound", () -> true, room::isSound);
+    compare("isSound", plain::isSound, room::isSound);
     for (int t = -1; t <= 12; t++) {
       int token = t;
       compare("uses", () -> plain.uses(token), () -> room.uses(token));

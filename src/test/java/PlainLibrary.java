@@ -200,6 +200,10 @@ final class PlainLibrary {
     return find(theme, pages.get(page).overrides, token);
   }
 
+  int valueAnew(int theme, int page, int token) {
+    return valueIn(theme, page, token);
+  }
+
   int addComponent(int front, int back, int size) {
     bounds(has(layers, front) && has(layers, back) && has(layers, size));
     state(components.size() < 8);
@@ -454,5 +458,9 @@ final class PlainLibrary {
     if (view.isEmpty()) throw new ArithmeticException();
     int sum = view.stream().mapToInt(r -> Math.abs(r.get(0) - r.get(1))).sum();
     return (double) sum / (double) view.size();
+  }
+
+  boolean isSound() {
+    return true;
   }
 }
